@@ -341,11 +341,6 @@ public final class HeatMachines {
             count++;
             return count - 1;
         }
-
-        boolean canRun(int k, int hour) {
-            Machine which = machines[k];
-            return !which.outages[hour] && which.heats.valueAt(facts[OUTSIDE][hour], false) != NONE;
-        }
     }
 
     /**
@@ -425,8 +420,12 @@ public final class HeatMachines {
         private final int[] heats = new int[HOURS * SETS];
         private final int[] powers = new int[HOURS * SETS];
         private final int[] startCents = new int[SETS];
-        /** Behind the last hour nothing costs any more, so there is one hour more of zeros. */
-        private final long[] least = new long[(HOURS + 1) * STATES];
+        /**
+         * For each hour and state the best choice: the cents from there on times SETS, and the set;
+         * the least such number costs least, and of several has the least set. Behind the last hour
+         * nothing costs any more, so there is one hour more of zeros.
+         */
+        private final long[] best = new long[(HOURS + 1) * STATES];
 
         Planner(House house) {
             this.house = house;
@@ -460,11 +459,11 @@ public final class HeatMachines {
         }
 
         boolean hasPlan() {
-            return leastCents() != NONE;
+            return best[over * STATES + state] != NONE;
         }
 
         long leastCents() {
-            return least[over * STATES + state];
+            return hasPlan() ? best[over * STATES + state] / SETS : NONE;
         }
 
         int countStarts(int k) {
@@ -495,7 +494,7 @@ public final class HeatMachines {
 
         /** What an hour alone costs in which a set runs. */
         long centsOf(int hour, int from, int set) {
-            return (long) powerOf(hour, set) * house.facts[PRICE][hour]
+            return (long) powers[hour * SETS + set] * house.facts[PRICE][hour]
                     + startCents[set & ~states.ranBefore[from]];
         }
 
@@ -512,8 +511,9 @@ public final class HeatMachines {
         private void weighMachine(int hour, int k) {
             Machine which = house.machines[k];
             int outside = house.facts[OUTSIDE][hour];
-            boolean can = house.canRun(k, hour);
-            int heat = can ? which.heats.valueAt(outside, false) : 0;
+            int given = which.outages[hour] ? NONE : which.heats.valueAt(outside, false);
+            boolean can = given != NONE;
+            int heat = can ? given : 0;
             int power = can ? which.powers.valueAt(outside, true) : 0;
             int bit = 1 << k;
             able[hour] |= can ? bit : 0;
@@ -526,8 +526,7 @@ public final class HeatMachines {
         private void fill(int hour) {
             for (int i = 0; i < states.count; i++) {
                 int from = states.reachable[i];
-                int set = bestSet(hour, from);
-                least[hour * STATES + from] = set == NONE ? NONE : centsFrom(hour, from, set);
+                best[hour * STATES + from] = bestChoice(hour, from);
             }
         }
 
@@ -535,37 +534,36 @@ public final class HeatMachines {
             int from = state;
             boolean is = hasPlan();
             for (int hour = over; hour < HOURS; hour++) {
-                int set = is ? bestSet(hour, from) : NONE;
+                int set = is ? (int) (best[hour * STATES + from] % SETS) : NONE;
                 sets[hour] = set;
-                from = set == NONE ? from : states.after[from * SETS + set];
+                from = is ? states.after[from * SETS + set] : from;
             }
         }
 
-        /** The least set of those with which the hours from this one on cost least. */
-        private int bestSet(int hour, int from) {
+        private long bestChoice(int hour, int from) {
             int must = states.mustRun[from] & able[hour];
-            int may = able[hour] & ~states.mustPause[from];
-            int best = NONE;
-            long bestCents = NONE;
-            for (int set = must; set <= may; set++) {
-                if ((set & must) == must && (set & ~may) == 0) {
-                    long cents = centsFrom(hour, from, set);
-                    if (cents != NONE && (best == NONE || cents < bestCents)) {
-                        best = set;
-                        bestCents = cents;
-                    }
+            int free = able[hour] & ~must & ~states.mustPause[from];
+            int parts = 1 << Integer.bitCount(free);
+            int part = 0;
+            long least = NONE;
+            for (int i = 0; i < parts; i++) {
+                long choice = choiceOf(hour, from, must | part);
+                if (choice != NONE && (least == NONE || choice < least)) {
+                    least = choice;
                 }
+                // Borrowing runs through the bits that are not free: the next part of the free ones.
+                part = (part - free) & free;
             }
-            return best;
+            return least;
         }
 
-        /** What an hour and all after it cost if a set runs in it; NONE if there is no plan then. */
-        private long centsFrom(int hour, int from, int set) {
-            if (heatOf(hour, set) < house.facts[NEED][hour]) {
+        /** A set in an hour as a choice; NONE if it is not heat enough, or no plan goes on from it. */
+        private long choiceOf(int hour, int from, int set) {
+            if (heats[hour * SETS + set] < house.facts[NEED][hour]) {
                 return NONE;
             }
-            long rest = least[(hour + 1) * STATES + states.after[from * SETS + set]];
-            return rest == NONE ? NONE : rest + centsOf(hour, from, set);
+            long rest = best[(hour + 1) * STATES + states.after[from * SETS + set]];
+            return rest == NONE ? NONE : (rest / SETS + centsOf(hour, from, set)) * SETS + set;
         }
     }
 
