@@ -498,11 +498,9 @@ public final class HeatMachines {
                     + startCents[set & ~states.ranBefore[from]];
         }
 
+        /** The empty set needs no look: its heat and power stay 0. */
         private void weigh(int hour) {
-            int base = hour * SETS;
             able[hour] = 0;
-            heats[base] = 0;
-            powers[base] = 0;
             for (int k = 0; k < house.count; k++) {
                 weighMachine(hour, k);
             }

@@ -1,3 +1,7 @@
+import java.util.function.Consumer;
+import java.util.function.IntConsumer;
+import java.util.function.Supplier;
+
 /** Counts the answers of a test that are not as due, and prints them. */
 final class Checks {
     private int made = 0;
@@ -18,6 +22,32 @@ final class Checks {
         made++;
         if (!got.equals(want)) {
             fail(what + " answered " + got + ", due is " + want);
+        }
+    }
+
+    /** The call throws nothing. */
+    void passes(String what, Runnable call) {
+        is(what, thrownBy(call), "nothing");
+    }
+
+    /** The call throws, and all that can be asked of the object answers as it did before. */
+    void changesNothing(String what, Supplier<HeatMachines> made, Consumer<HeatMachines> call) {
+        String before = Interview.of(made, x -> { });
+        String after = Interview.of(made, x -> {
+            if (thrownBy(() -> call.accept(x)).equals("nothing")) {
+                fail(what + " threw nothing");
+            }
+        });
+        is(what + " changed", Interview.difference(after, before), "");
+    }
+
+    /** Numbers from least to most are taken; those beside them and far from them are not. */
+    void bounds(String what, int least, int most, IntConsumer call) {
+        for (int v : new int[] {least, most}) {
+            passes(what + " " + v, () -> call.accept(v));
+        }
+        for (int v : new int[] {least - 1, most + 1, Integer.MIN_VALUE, Integer.MAX_VALUE}) {
+            illegalArgument(what + " " + v, () -> call.accept(v));
         }
     }
 

@@ -48,14 +48,6 @@ public final class PromiseTest {
         CHECKS.end("PromiseTest");
     }
 
-    /** A machine that gives the same everywhere. */
-    private static int flat(HeatMachines x, int run, int pause, int cents, int heat, int power) {
-        int k = x.machine(run, pause, cents);
-        x.row(k, -5000, heat, power);
-        x.row(k, 5000, heat, power);
-        return k;
-    }
-
     private static void plan(String what, HeatMachines x, int from, int... sets) {
         for (int i = 0; i < sets.length; i++) {
             CHECKS.is(what + ": planned(" + (from + i) + ")", x.planned(from + i), sets[i]);
@@ -217,8 +209,8 @@ public final class PromiseTest {
 
     private static void outages() {
         HeatMachines x = new HeatMachines();
-        flat(x, 1, 1, 0, 10, 1);
-        flat(x, 1, 1, 0, 10, 2);
+        Build.flat(x, 1, 1, 0, 10, 1);
+        Build.flat(x, 1, 1, 0, 10, 2);
         x.hour(3, NEED, 10);
         plan("5: before", x, 3, 1);
         CHECKS.is("5: was not", x.out(0, 3, true), false);
@@ -234,7 +226,7 @@ public final class PromiseTest {
 
     private static void outWrong() {
         HeatMachines x = new HeatMachines();
-        flat(x, 1, 1, 0, 10, 1);
+        Build.flat(x, 1, 1, 0, 10, 1);
         x.hour(1, NEED, 10);
         for (int k : new int[] {-1, 1, 2, 3, FAR[0], FAR[1]}) {
             CHECKS.illegalArgument("5: machine " + k, () -> x.out(k, 0, true));
@@ -280,7 +272,7 @@ public final class PromiseTest {
 
     private static void givesWrong() {
         HeatMachines x = new HeatMachines();
-        flat(x, 1, 1, 0, 1, 1);
+        Build.flat(x, 1, 1, 0, 1, 1);
         for (int k : new int[] {-1, 1, 2, 3, FAR[0], FAR[1]}) {
             CHECKS.illegalArgument("6: machine " + k, () -> x.gives(k, 0, 0));
         }
@@ -294,7 +286,7 @@ public final class PromiseTest {
 
     private static void costOrdinary() {
         HeatMachines x = new HeatMachines();
-        flat(x, 1, 1, 7, 10, 3);
+        Build.flat(x, 1, 1, 7, 10, 3);
         x.hour(5, NEED, 10);
         x.hour(5, PRICE, 4);
         CHECKS.is("7: power times price and a start", x.cost(), 19);
@@ -304,7 +296,7 @@ public final class PromiseTest {
         CHECKS.is("7: a second start is cheaper than an hour", x.cost(), 86);
         x.hour(7, PRICE, 2);
         CHECKS.is("7: an hour is cheaper than a second start", x.cost(), 85);
-        flat(x, 1, 1, 0, 1, 1);
+        Build.flat(x, 1, 1, 0, 1, 1);
         CHECKS.is("7: a cheaper machine", x.cost(), 39);
         x.run(6);
         CHECKS.is("7: what is over is not counted", x.cost(), 20);
@@ -313,7 +305,7 @@ public final class PromiseTest {
     private static void costEdges() {
         HeatMachines x = new HeatMachines();
         for (int k = 0; k < 3; k++) {
-            flat(x, 4, 4, 100000, 100000, 100000);
+            Build.flat(x, 4, 4, 100000, 100000, 100000);
         }
         for (int h = 0; h < 36; h++) {
             x.hour(h, PRICE, 1000);
@@ -323,7 +315,7 @@ public final class PromiseTest {
         plan("7: the least set", x, 0, 1, 1);
         HeatMachines y = new HeatMachines();
         for (int k = 0; k < 3; k++) {
-            flat(y, 4, 4, 100000, 33334, 100000);
+            Build.flat(y, 4, 4, 100000, 33334, 100000);
         }
         for (int h = 0; h < 36; h++) {
             y.hour(h, PRICE, 1000);
@@ -342,8 +334,8 @@ public final class PromiseTest {
         HeatMachines x = new HeatMachines();
         x.hour(35, NEED, 1);
         CHECKS.is("7: none without machines", x.cost(), NONE);
-        flat(x, 1, 1, 0, 9, 1);
-        flat(x, 1, 1, 0, 9, 1);
+        Build.flat(x, 1, 1, 0, 9, 1);
+        Build.flat(x, 1, 1, 0, 9, 1);
         CHECKS.is("7: one is enough", x.cost(), 10);
         x.hour(35, NEED, 18);
         CHECKS.is("7: just enough", x.cost(), 20);
@@ -357,9 +349,9 @@ public final class PromiseTest {
 
     private static void plannedTies() {
         HeatMachines x = new HeatMachines();
-        flat(x, 1, 1, 0, 5, 0);
-        flat(x, 1, 1, 0, 5, 0);
-        flat(x, 1, 1, 0, 5, 0);
+        Build.flat(x, 1, 1, 0, 5, 0);
+        Build.flat(x, 1, 1, 0, 5, 0);
+        Build.flat(x, 1, 1, 0, 5, 0);
         CHECKS.is("8: all is free", x.cost(), 0);
         plan("8: the least sets", x, 0, 0, 0, 0);
         x.hour(1, NEED, 5);
@@ -370,13 +362,13 @@ public final class PromiseTest {
         x.out(1, 2, true);
         plan("8: the least ones that can", x, 0, 0, 2, 5, 7, 0);
         HeatMachines y = new HeatMachines();
-        flat(y, 2, 1, 10, 5, 1);
+        Build.flat(y, 2, 1, 10, 5, 1);
         y.hour(1, NEED, 5);
         CHECKS.is("8: before or behind costs the same", y.cost(), 30);
         plan("8: the earlier hour has the least set", y, 0, 0, 1, 1, 0);
         // Pausing and starting again costs what running on costs: the pause has the least set.
         HeatMachines z = new HeatMachines();
-        flat(z, 1, 1, 20, 5, 2);
+        Build.flat(z, 1, 1, 20, 5, 2);
         z.hour(0, NEED, 5);
         z.hour(2, NEED, 5);
         CHECKS.is("8: a pause or none cost the same", z.cost(), 80);
@@ -385,7 +377,7 @@ public final class PromiseTest {
 
     private static void plannedNone() {
         HeatMachines x = new HeatMachines();
-        flat(x, 1, 1, 0, 5, 1);
+        Build.flat(x, 1, 1, 0, 5, 1);
         for (int h : new int[] {-1, 36, FAR[0], FAR[1]}) {
             CHECKS.illegalArgument("8: hour " + h, () -> x.planned(h));
         }
@@ -402,7 +394,7 @@ public final class PromiseTest {
     private static void leastRunBinds() {
         for (int least = 1; least <= 4; least++) {
             HeatMachines x = new HeatMachines();
-            flat(x, least, 1, 0, 5, 1);
+            Build.flat(x, least, 1, 0, 5, 1);
             x.hour(0, NEED, 1);
             CHECKS.is("terms: least run " + least, x.cost(), 10 * least);
             for (int h = 0; h < 6; h++) {
@@ -413,7 +405,7 @@ public final class PromiseTest {
             CHECKS.is("terms: the last hour may cut a run", x.cost(), 10);
         }
         HeatMachines y = new HeatMachines();
-        flat(y, 4, 1, 0, 5, 1);
+        Build.flat(y, 4, 1, 0, 5, 1);
         y.hour(0, NEED, 1);
         y.run(1);
         y.hour(1, PRICE, 1000);
@@ -427,7 +419,7 @@ public final class PromiseTest {
     private static void leastPauseBinds() {
         for (int least = 1; least <= 4; least++) {
             HeatMachines x = new HeatMachines();
-            flat(x, 1, least, 0, 5, 1);
+            Build.flat(x, 1, least, 0, 5, 1);
             x.hour(0, NEED, 1);
             x.hour(5, NEED, 1);
             CHECKS.is("terms: before hour 0 they paused long enough", x.planned(0), 1);
@@ -440,7 +432,7 @@ public final class PromiseTest {
             CHECKS.is("terms: out hours are pauses", x.cost(), least < 4 ? 20 : NONE);
         }
         HeatMachines y = new HeatMachines();
-        flat(y, 1, 3, 0, 5, 1);
+        Build.flat(y, 1, 3, 0, 5, 1);
         y.hour(0, NEED, 1);
         y.run(2);
         y.hour(3, NEED, 1);
@@ -452,7 +444,7 @@ public final class PromiseTest {
 
     private static void cannotBreaksRuns() {
         HeatMachines x = new HeatMachines();
-        flat(x, 4, 2, 100, 5, 1);
+        Build.flat(x, 4, 2, 100, 5, 1);
         x.hour(0, NEED, 1);
         x.out(0, 1, true);
         CHECKS.is("terms: out ends a run too early", x.cost(), 110);
@@ -473,7 +465,7 @@ public final class PromiseTest {
 
     private static void earlyPausesCount() {
         HeatMachines x = new HeatMachines();
-        flat(x, 3, 2, 0, 5, 1);
+        Build.flat(x, 3, 2, 0, 5, 1);
         x.hour(0, NEED, 1);
         x.out(0, 1, true);
         x.out(0, 2, true);
@@ -486,8 +478,8 @@ public final class PromiseTest {
 
     private static void startsCounted() {
         HeatMachines x = new HeatMachines();
-        flat(x, 1, 1, 0, 5, 1);
-        flat(x, 1, 1, 0, 50, 9);
+        Build.flat(x, 1, 1, 0, 5, 1);
+        Build.flat(x, 1, 1, 0, 50, 9);
         for (int h : new int[] {0, 1, 5, 35}) {
             x.hour(h, NEED, 5);
         }
@@ -507,7 +499,7 @@ public final class PromiseTest {
 
     private static void startsWrong() {
         HeatMachines x = new HeatMachines();
-        flat(x, 1, 1, 0, 5, 1);
+        Build.flat(x, 1, 1, 0, 5, 1);
         for (int k : new int[] {-1, 1, 2, 3, FAR[0], FAR[1]}) {
             CHECKS.illegalArgument("9: machine " + k, () -> x.starts(k));
         }
@@ -518,7 +510,7 @@ public final class PromiseTest {
 
     private static void runPasses() {
         HeatMachines x = new HeatMachines();
-        flat(x, 2, 2, 5, 5, 1);
+        Build.flat(x, 2, 2, 5, 5, 1);
         x.hour(4, NEED, 5);
         CHECKS.is("10: one", x.run(1), 1);
         CHECKS.is("10: some", x.run(4), 5);
@@ -530,8 +522,8 @@ public final class PromiseTest {
         CHECKS.is("10: all", new HeatMachines().run(36), 36);
         // The plan is looked at anew when something has changed between two runs.
         HeatMachines y = new HeatMachines();
-        flat(y, 1, 1, 0, 5, 1);
-        flat(y, 1, 1, 0, 5, 2);
+        Build.flat(y, 1, 1, 0, 5, 1);
+        Build.flat(y, 1, 1, 0, 5, 2);
         y.hour(1, NEED, 5);
         y.run(1);
         y.out(0, 1, true);
@@ -541,7 +533,7 @@ public final class PromiseTest {
 
     private static void runStops() {
         HeatMachines x = new HeatMachines();
-        flat(x, 1, 1, 0, 5, 1);
+        Build.flat(x, 1, 1, 0, 5, 1);
         x.hour(7, NEED, 6);
         CHECKS.is("10: no plan, no hour", x.run(3), 0);
         CHECKS.is("10: none ran", x.ran(0), NONE);
@@ -564,9 +556,9 @@ public final class PromiseTest {
 
     private static void ranSets() {
         HeatMachines x = new HeatMachines();
-        flat(x, 1, 1, 0, 5, 1);
-        flat(x, 1, 1, 0, 5, 2);
-        flat(x, 1, 1, 0, 5, 3);
+        Build.flat(x, 1, 1, 0, 5, 1);
+        Build.flat(x, 1, 1, 0, 5, 2);
+        Build.flat(x, 1, 1, 0, 5, 3);
         int[] needs = {5, 10, 15, 0, 1};
         int[] sets = {1, 3, 7, 0, 1};
         for (int h = 0; h < 5; h++) {
@@ -765,7 +757,7 @@ public final class PromiseTest {
 
     private static void objectsApart() {
         HeatMachines x = new HeatMachines();
-        flat(x, 1, 1, 0, 5, 1);
+        Build.flat(x, 1, 1, 0, 5, 1);
         x.hour(0, NEED, 5);
         x.corner(0, 1);
         x.ground(1);

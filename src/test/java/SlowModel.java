@@ -31,6 +31,27 @@ final class SlowModel {
         Arrays.fill(facts[1], 10);
     }
 
+    /** One that is as this one, and goes its own way. */
+    SlowModel copy() {
+        SlowModel copy = new SlowModel();
+        copy.machines = machines;
+        copy.over = over;
+        copy.corners = corners;
+        copy.numbers = numbers;
+        for (int i = 0; i < 3; i++) {
+            copy.traits[i] = traits[i].clone();
+            copy.map[i] = map[i].clone();
+            copy.isOut[i] = isOut[i].clone();
+            copy.facts[i] = facts[i].clone();
+        }
+        System.arraycopy(rows, 0, copy.rows, 0, rows.length);
+        System.arraycopy(sets, 0, copy.sets, 0, sets.length);
+        System.arraycopy(corner, 0, copy.corner, 0, corner.length);
+        System.arraycopy(table, 0, copy.table, 0, table.length);
+        System.arraycopy(loads, 0, copy.loads, 0, loads.length);
+        return copy;
+    }
+
     private static boolean in(int v, int least, int most) {
         return least <= v && v <= most;
     }
