@@ -43,8 +43,8 @@ public final class HeatMachines {
     /** How many states all machines together may be in. */
     private static final int STATES = 1 << (DIGIT_BITS * MACHINES);
 
-    private final House house = new House();
-    private final Planner planner = new Planner(house);
+    private final Planner planner = new Planner();
+    private final House house = planner.house;
     private final int[] ranSets = new int[HOURS];
     private final long[] totals = new long[TOLDS];
     private final Line waters = new Line(CORNERS);
@@ -409,7 +409,7 @@ public final class HeatMachines {
      * and state, what the hours from there on cost at least.
      */
     private static final class Planner {
-        private final House house;
+        private final House house = new House();
         private final States states = new States();
         private int over = 0;
         private int state = 0;
@@ -426,10 +426,6 @@ public final class HeatMachines {
          * nothing costs any more, so there is one hour more of zeros.
          */
         private final long[] best = new long[(HOURS + 1) * STATES];
-
-        Planner(House house) {
-            this.house = house;
-        }
 
         /** Takes in machine k, the last one of the house. */
         void join(int k) {
